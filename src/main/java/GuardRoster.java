@@ -122,7 +122,8 @@ public final class GuardRoster {
     }
 
     public int exchange(int gate, int slot, int otherGate, int otherSlot)
-            throws IndexOutOfBoundsException, IllegalArgumentException, IllegalStateException, NoSuchElementException, UnsupportedOperationException {
+            throws IndexOutOfBoundsException, IllegalArgumentException, IllegalStateException,
+            NoSuchElementException, UnsupportedOperationException {
         throwFor(problemOfExchange(gate, slot, otherGate, otherSlot));
         history.keep(roster);
         int guard = roster.guardOn(gate, slot);
@@ -224,7 +225,8 @@ public final class GuardRoster {
     // ---- leave
 
     public int grantLeave(int guard, int first, int last)
-            throws IndexOutOfBoundsException, IllegalArgumentException, IllegalStateException, UnsupportedOperationException {
+            throws IndexOutOfBoundsException, IllegalArgumentException, IllegalStateException,
+            UnsupportedOperationException {
         throwFor(problemOfLeave(guard, first, last));
         history.keep(roster);
         return roster.addLeave(guard, first, last);
