@@ -10,7 +10,6 @@ public final class GuardRosterModelTest {
     private final Model m = new Model();
     private long seed;
     private int callsLeft = CALLS;
-    private String call = "";
     /** How often time passes and how wild the arguments are differ from run to run. */
     private final boolean hurries;
     private final int wildness;
@@ -80,9 +79,8 @@ public final class GuardRosterModelTest {
         return pick(8) == 0 ? near(28) : near(Math.min(28, m.currentSlot() + 6));
     }
 
-    private void both(String name, Callable<?> mine, Callable<?> models) {
+    private void both(String call, Callable<?> mine, Callable<?> models) {
         callsLeft--;
-        call = name;
         String due = Check.answer(models);
         String answered = Check.answer(mine);
         if (!due.equals(answered)) {

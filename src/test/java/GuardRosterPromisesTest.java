@@ -580,6 +580,15 @@ public final class GuardRosterPromisesTest {
         most(rising, 0, 5);
         GuardRoster few = roster("99991", "1199");
         most(few, 0, 3);
+        // Only the last guard fits.
+        GuardRoster last = roster("59", "1111111119");
+        most(last, 27, 1);
+        // Each of the two looks at the slot by itself.
+        last.grantLeave(9, 3, 4);
+        check.is(0, () -> last.mostDutiesBySets(3));
+        check.is(1, () -> last.mostDutiesBySets(5));
+        check.is(0, () -> last.mostDuties(4));
+        check.is(1, () -> last.mostDuties(2));
         check.is(NO_ELEMENT, few::refusalReason);
         check.is(0, few::dutyCount);
         check.is(8, few::undoCount);
