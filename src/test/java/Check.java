@@ -41,7 +41,7 @@ final class Check {
 
     private static String callersLine() {
         for (StackTraceElement frame : new Throwable().getStackTrace()) {
-            if (!frame.getClassName().equals("Check")) {
+            if (!frame.getClassName().equals("Check") && !frame.getClassName().equals("RosterCalls")) {
                 return "(" + frame.getFileName() + ":" + frame.getLineNumber() + ")";
             }
         }

@@ -1,19 +1,7 @@
-import java.util.NoSuchElementException;
-import java.util.concurrent.Callable;
+import java.util.function.Supplier;
 
 /** For each promise of the document, by its number: ordinary inputs, its edges and wrong inputs. */
-public final class GuardRosterPromisesTest {
-    private static final Class<?> INDEX = IndexOutOfBoundsException.class;
-    private static final Class<?> ARGUMENT = IllegalArgumentException.class;
-    private static final Class<?> STATE = IllegalStateException.class;
-    private static final Class<?> NO_ELEMENT = NoSuchElementException.class;
-    private static final Class<?> REFUSED = UnsupportedOperationException.class;
-    private static final Class<?> ARITHMETIC = ArithmeticException.class;
-    private static final int LEAST = Integer.MIN_VALUE;
-    private static final int MOST = Integer.MAX_VALUE;
-
-    private static final Check check = new Check();
-
+public final class GuardRosterPromisesTest extends RosterCalls {
     public static void main(String[] args) {
         newObject();
         addGate();
@@ -59,45 +47,6 @@ public final class GuardRosterPromisesTest {
         undoLeavesAside();
         saveAndRestore();
         check.end();
-    }
-
-    /** A roster with gates and guards whose ranks are the digits of the two texts. */
-    private static GuardRoster roster(String gates, String guards) {
-        GuardRoster x = new GuardRoster();
-        for (char digit : gates.toCharArray()) {
-            x.addGate(digit - '0');
-        }
-        for (char digit : guards.toCharArray()) {
-            x.addGuard(digit - '0');
-        }
-        return x;
-    }
-
-    private static void feedAll(GuardRoster x, String characters) {
-        for (char character : characters.toCharArray()) {
-            x.feed(character);
-        }
-    }
-
-    private static int run(GuardRoster x, String command) {
-        feedAll(x, command);
-        return x.execute();
-    }
-
-    private static String output(GuardRoster x, int length) {
-        StringBuilder characters = new StringBuilder();
-        for (int i = 0; i < length; i++) {
-            characters.append(x.outputCharacter(i));
-        }
-        return characters.toString();
-    }
-
-    private static String slot(GuardRoster x, int slot) {
-        return output(x, x.writeSlot(slot));
-    }
-
-    private static String guard(GuardRoster x, int guard) {
-        return output(x, x.writeGuard(guard));
     }
 
     private static void newObject() {
@@ -232,36 +181,36 @@ public final class GuardRosterPromisesTest {
         x.assign(1, 4, 1);
         x.assign(2, 8, 1);
         x.assign(0, 6, 2);
-        refuses(x, 0, 6, 0, GuardRoster.PLACE_TAKEN, 2);
-        refuses(x, 0, 6, 2, GuardRoster.PLACE_TAKEN, 2);
-        refuses(x, 0, 4, 0, GuardRoster.RANK_TOO_LOW, 1);
-        refuses(x, 0, 4, 1, GuardRoster.BUSY, 1);
-        refuses(x, 0, 5, 1, GuardRoster.NO_REST_BEFORE, 1);
-        refuses(x, 0, 7, 1, GuardRoster.NO_REST_AFTER, 2);
-        refuses(x, 3, 7, 2, GuardRoster.NO_REST_BEFORE, 0);
-        refuses(x, 3, 5, 2, GuardRoster.NO_REST_AFTER, 0);
+        refusesDuty(x, 0, 6, 0, GuardRoster.PLACE_TAKEN, 2);
+        refusesDuty(x, 0, 6, 2, GuardRoster.PLACE_TAKEN, 2);
+        refusesDuty(x, 0, 4, 0, GuardRoster.RANK_TOO_LOW, 1);
+        refusesDuty(x, 0, 4, 1, GuardRoster.BUSY, 1);
+        refusesDuty(x, 0, 5, 1, GuardRoster.NO_REST_BEFORE, 1);
+        refusesDuty(x, 0, 7, 1, GuardRoster.NO_REST_AFTER, 2);
+        refusesDuty(x, 3, 7, 2, GuardRoster.NO_REST_BEFORE, 0);
+        refusesDuty(x, 3, 5, 2, GuardRoster.NO_REST_AFTER, 0);
         x.grantLeave(1, 5, 7);
         x.grantLeave(0, 9, 9);
-        refuses(x, 3, 5, 1, GuardRoster.ON_LEAVE, 5);
-        refuses(x, 3, 7, 1, GuardRoster.ON_LEAVE, 7);
-        refuses(x, 0, 9, 0, GuardRoster.RANK_TOO_LOW, 1);
-        refuses(x, 1, 9, 0, GuardRoster.ON_LEAVE, 9);
-        refuses(x, 0, 6, 1, GuardRoster.PLACE_TAKEN, 2);
+        refusesDuty(x, 3, 5, 1, GuardRoster.ON_LEAVE, 5);
+        refusesDuty(x, 3, 7, 1, GuardRoster.ON_LEAVE, 7);
+        refusesDuty(x, 0, 9, 0, GuardRoster.RANK_TOO_LOW, 1);
+        refusesDuty(x, 1, 9, 0, GuardRoster.ON_LEAVE, 9);
+        refusesDuty(x, 0, 6, 1, GuardRoster.PLACE_TAKEN, 2);
         // Between two duties the one before is named first.
         x.assign(3, 10, 1);
-        refuses(x, 3, 9, 1, GuardRoster.NO_REST_BEFORE, 2);
+        refusesDuty(x, 3, 9, 1, GuardRoster.NO_REST_BEFORE, 2);
         check.is(1, () -> x.assign(3, 6, 0));
         GuardRoster ends = roster("11", "1");
         check.is(1, () -> ends.assign(0, 0, 0));
         check.is(2, () -> ends.assign(1, 27, 0));
-        refuses(ends, 0, 27, 0, GuardRoster.BUSY, 1);
-        refuses(ends, 0, 26, 0, GuardRoster.NO_REST_AFTER, 1);
-        refuses(ends, 1, 1, 0, GuardRoster.NO_REST_BEFORE, 0);
+        refusesDuty(ends, 0, 27, 0, GuardRoster.BUSY, 1);
+        refusesDuty(ends, 0, 26, 0, GuardRoster.NO_REST_AFTER, 1);
+        refusesDuty(ends, 1, 1, 0, GuardRoster.NO_REST_BEFORE, 0);
         ends.passSlots(1);
-        refuses(ends, 1, 1, 0, GuardRoster.NO_REST_BEFORE, 0);
+        refusesDuty(ends, 1, 1, 0, GuardRoster.NO_REST_BEFORE, 0);
     }
 
-    private static void refuses(GuardRoster x, int gate, int slot, int guard, int reason, int detail) {
+    private static void refusesDuty(GuardRoster x, int gate, int slot, int guard, int reason, int detail) {
         check.is(false, () -> x.canAssign(gate, slot, guard));
         check.is(REFUSED, () -> x.assign(gate, slot, guard));
         check.is(reason, x::refusalReason);
@@ -1048,20 +997,21 @@ public final class GuardRosterPromisesTest {
 
     private static void executeExceptions() {
         check.at("44 execute, commands that throw");
-        GuardRoster x = roster("11", "11");
-        x.passSlots(2);
         String[] failing = {"gate 0", "guard 0", "duty 2@5=0", "duty 0@28=0", "duty 0@5=2", "duty 0@1=0", "free 0@5",
             "free 2@5", "free 0@28", "free 0@1", "leave 2 3-4", "leave 0 4-3", "leave 0 4-28", "leave 0 1-4",
             "fill 28", "fill 1", "food 0", "food 51", "food 00", "pass 0", "pass 29", "pass 27", "pass 99"};
         for (String command : failing) {
-            check.is(REFUSED, () -> run(x, "food 1;" + command));
-            check.is(1, x::failedCommand);
-            check.is(NO_ELEMENT, x::refusalReason);
-            check.is(REFUSED, () -> run(x, command + ";food 1"));
-            check.is(0, x::failedCommand);
+            GuardRoster one = roster("11", "11");
+            one.passSlots(2);
+            check.is(REFUSED, () -> run(one, "food 1;" + command));
+            check.is(1, one::failedCommand);
+            check.is(NO_ELEMENT, one::refusalReason);
+            check.is(REFUSED, () -> run(one, command + ";food 1"));
+            check.is(0, one::failedCommand);
+            check.is(20, one::rations);
+            check.is(NO_ELEMENT, one::errorPosition);
         }
-        check.is(20, x::rations);
-        check.is(NO_ELEMENT, x::errorPosition);
+        GuardRoster x = roster("11", "11");
         x.assign(1, 9, 1);
         check.is(REFUSED, () -> run(x, "leave 1 8-9"));
         check.is(GuardRoster.BUSY, x::refusalReason);
@@ -1075,84 +1025,84 @@ public final class GuardRosterPromisesTest {
 
     private static void errorPosition() {
         check.at("45 errorPosition");
-        GuardRoster x = roster("11", "11");
-        check.is(NO_ELEMENT, x::errorPosition);
-        wrongAt(x, "", 0);
-        wrongAt(x, ";", 0);
-        wrongAt(x, " gate 1", 0);
-        wrongAt(x, "Gate 1", 0);
-        wrongAt(x, "x", 0);
-        wrongAt(x, "g", 1);
-        wrongAt(x, "gx", 1);
-        wrongAt(x, "gat", 3);
-        wrongAt(x, "gatE 1", 3);
-        wrongAt(x, "gate", 4);
-        wrongAt(x, "gate1", 4);
-        wrongAt(x, "gate ", 5);
-        wrongAt(x, "gate  1", 5);
-        wrongAt(x, "gate x", 5);
-        wrongAt(x, "gate 12", 6);
-        wrongAt(x, "gate 1 ", 6);
-        wrongAt(x, "gate 1;", 7);
-        wrongAt(x, "gate 1;;gate 1", 7);
-        wrongAt(x, "gate 1;gate 1;", 14);
-        wrongAt(x, "gate 1; gate 1", 7);
-        wrongAt(x, "guart 1", 4);
-        wrongAt(x, "guard 10", 7);
-        wrongAt(x, "gu", 2);
-        wrongAt(x, "duty 10@1=1", 6);
-        wrongAt(x, "duty 1@=1", 7);
-        wrongAt(x, "duty 1@1", 8);
-        wrongAt(x, "duty 1@123=1", 9);
-        wrongAt(x, "duty 1@12", 9);
-        wrongAt(x, "duty 1@12=", 10);
-        wrongAt(x, "duty 1@12=11", 11);
-        wrongAt(x, "duty 1@1@1", 8);
-        wrongAt(x, "f", 1);
-        wrongAt(x, "fa", 1);
-        wrongAt(x, "fr", 2);
-        wrongAt(x, "fi", 2);
-        wrongAt(x, "fo", 2);
-        wrongAt(x, "frod 1", 2);
-        wrongAt(x, "fiod 1", 2);
-        wrongAt(x, "foll 1", 2);
-        wrongAt(x, "free 1", 6);
-        wrongAt(x, "free 1@", 7);
-        wrongAt(x, "free 1@123", 9);
-        wrongAt(x, "free 12@1", 6);
-        wrongAt(x, "leave 0-1", 7);
-        wrongAt(x, "leave 0 1", 9);
-        wrongAt(x, "leave 0 11", 10);
-        wrongAt(x, "leave 0 111-1", 10);
-        wrongAt(x, "leave 0 1-", 10);
-        wrongAt(x, "leave 0 -1", 8);
-        wrongAt(x, "leave 0 1-111", 12);
-        wrongAt(x, "fill", 4);
-        wrongAt(x, "fill ", 5);
-        wrongAt(x, "fill 123", 7);
-        wrongAt(x, "fill -1", 5);
-        wrongAt(x, "food 1,", 6);
-        wrongAt(x, "pass 1:", 6);
-        wrongAt(x, "pass /", 5);
-        wrongAt(x, "pass :", 5);
-        wrongAt(x, "pass \u0661", 5);
-        wrongAt(x, "pass 1\u0661", 6);
-        wrongAt(x, "food 1;food 1;food 1;food 1;food 1;food 1;food 1;food 1;food", 60);
-        wrongAt(x, "food 1;food 1;food 1;food 1;food 1;food 1;food 1;food 1;fx", 57);
-        wrongAt(x, "gate 0;gate x", 12);
-        check.is(NO_ELEMENT, x::failedCommand);
-        check.is(20, x::rations);
-        check.is(1, () -> run(x, "food 1"));
-        check.is(12, x::errorPosition);
+        wrongAt("", 0);
+        wrongAt(";", 0);
+        wrongAt(" gate 1", 0);
+        wrongAt("Gate 1", 0);
+        wrongAt("x", 0);
+        wrongAt("g", 1);
+        wrongAt("gx", 1);
+        wrongAt("gat", 3);
+        wrongAt("gatE 1", 3);
+        wrongAt("gate", 4);
+        wrongAt("gate1", 4);
+        wrongAt("gate ", 5);
+        wrongAt("gate  1", 5);
+        wrongAt("gate x", 5);
+        wrongAt("gate 12", 6);
+        wrongAt("gate 1 ", 6);
+        wrongAt("gate 1;", 7);
+        wrongAt("gate 1;;gate 1", 7);
+        wrongAt("gate 1;gate 1;", 14);
+        wrongAt("gate 1; gate 1", 7);
+        wrongAt("guart 1", 4);
+        wrongAt("guard 10", 7);
+        wrongAt("gu", 2);
+        wrongAt("duty 10@1=1", 6);
+        wrongAt("duty 1@=1", 7);
+        wrongAt("duty 1@1", 8);
+        wrongAt("duty 1@123=1", 9);
+        wrongAt("duty 1@12", 9);
+        wrongAt("duty 1@12=", 10);
+        wrongAt("duty 1@12=11", 11);
+        wrongAt("duty 1@1@1", 8);
+        wrongAt("f", 1);
+        wrongAt("fa", 1);
+        wrongAt("fr", 2);
+        wrongAt("fi", 2);
+        wrongAt("fo", 2);
+        wrongAt("frod 1", 2);
+        wrongAt("fiod 1", 2);
+        wrongAt("foll 1", 2);
+        wrongAt("free 1", 6);
+        wrongAt("free 1@", 7);
+        wrongAt("free 1@123", 9);
+        wrongAt("free 12@1", 6);
+        wrongAt("leave 0-1", 7);
+        wrongAt("leave 0 1", 9);
+        wrongAt("leave 0 11", 10);
+        wrongAt("leave 0 111-1", 10);
+        wrongAt("leave 0 1-", 10);
+        wrongAt("leave 0 -1", 8);
+        wrongAt("leave 0 1-111", 12);
+        wrongAt("fill", 4);
+        wrongAt("fill ", 5);
+        wrongAt("fill 123", 7);
+        wrongAt("fill -1", 5);
+        wrongAt("food 1,", 6);
+        wrongAt("pass 1:", 6);
+        wrongAt("pass /", 5);
+        wrongAt("pass :", 5);
+        wrongAt("pass \u0661", 5);
+        wrongAt("pass 1\u0661", 6);
+        wrongAt("food 1;food 1;food 1;food 1;food 1;food 1;food 1;food 1;food", 60);
+        wrongAt("food 1;food 1;food 1;food 1;food 1;food 1;food 1;food 1;fx", 57);
+        wrongAt("gate 0;gate x", 12);
     }
 
-    private static void wrongAt(GuardRoster x, String malformed, int position) {
+    private static void wrongAt(String malformed, int position) {
+        GuardRoster x = roster("11", "11");
+        check.is(NO_ELEMENT, x::errorPosition);
         check.is(ARGUMENT, () -> run(x, malformed));
         check.is(position, x::errorPosition);
         check.is(1, () -> x.feed('g'));
         check.is(ARGUMENT, x::execute);
         check.is(1, x::errorPosition);
         check.is(ARGUMENT, () -> run(x, malformed));
+        check.is(position, x::errorPosition);
+        check.is(NO_ELEMENT, x::failedCommand);
+        check.is(20, x::rations);
+        check.is(1, () -> run(x, "food 1"));
         check.is(position, x::errorPosition);
     }
 
@@ -1203,50 +1153,37 @@ public final class GuardRosterPromisesTest {
 
     private static void undoEachChange() {
         check.at("47 undo of each change");
-        GuardRoster x = roster("11", "11");
-        x.assign(0, 4, 0);
-        x.assign(1, 8, 1);
-        undone(x, () -> x.addGate(1));
-        undone(x, () -> x.addGuard(1));
-        undone(x, () -> x.assign(1, 4, 1));
-        undone(x, () -> x.remove(0, 4));
-        undone(x, () -> x.exchange(0, 4, 1, 8));
-        undone(x, () -> x.grantLeave(0, 5, 20));
-        x.grantLeave(0, 10, 11);
-        undone(x, () -> x.endLeave(0, 11));
-        undone(x, () -> x.fillSlot(12));
-        undone(x, () -> x.fillSlot(8));
-        undone(x, () -> x.addRations(9));
-        undone(x, () -> x.passSlots(9));
-        undone(x, () -> run(x, "gate 1;pass 10"));
+        Supplier<GuardRoster> made = made("11", "11", y -> y.assign(0, 4, 0), y -> y.assign(1, 8, 1),
+                y -> y.grantLeave(0, 10, 11));
+        undone(made, y -> y.addGate(1));
+        undone(made, y -> y.addGuard(1));
+        undone(made, y -> y.assign(1, 4, 1));
+        undone(made, y -> y.remove(0, 4));
+        undone(made, y -> y.exchange(0, 4, 1, 8));
+        undone(made, y -> y.grantLeave(0, 5, 20));
+        undone(made, y -> y.endLeave(0, 11));
+        undone(made, y -> y.fillSlot(12));
+        undone(made, y -> y.fillSlot(8));
+        undone(made, y -> y.addRations(9));
+        undone(made, y -> y.passSlots(9));
+        undone(made, y -> run(y, "gate 1;pass 10"));
         check.at("47 undo of a change that alters nothing");
-        GuardRoster still = roster("1", "1");
-        still.grantLeave(0, 0, 27);
-        undone(still, () -> still.grantLeave(0, 0, 27));
-        undone(still, () -> still.fillSlot(0));
+        Supplier<GuardRoster> still = made("1", "1", y -> y.grantLeave(0, 0, 27));
+        undone(still, y -> y.grantLeave(0, 0, 27));
+        undone(still, y -> y.fillSlot(0));
     }
 
-    private static void undone(GuardRoster x, Callable<?> change) {
+    private static void undone(Supplier<GuardRoster> made, Call change) {
+        GuardRoster x = made.get();
         String before = picture(x);
         int changes = x.undoCount();
         check.is(true, () -> {
-            change.call();
+            change.on(x);
             return true;
         });
         check.is(Math.min(8, changes + 1), x::undoCount);
         check.is(Math.min(8, changes + 1) - 1, x::undo);
         check.is(before, () -> picture(x));
-    }
-
-    private static String picture(GuardRoster x) {
-        StringBuilder all = new StringBuilder();
-        for (int gate = 0; gate < x.gateCount(); gate++) {
-            all.append(x.neededRank(gate)).append(' ');
-        }
-        for (int guard = 0; guard < x.guardCount(); guard++) {
-            all.append(guard(x, guard)).append(x.rank(guard)).append(x.faints(guard)).append(' ');
-        }
-        return all.append(x.rations()).append(' ').append(x.currentSlot()).toString();
     }
 
     private static void undoLeavesAside() {
